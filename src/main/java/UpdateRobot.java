@@ -35,7 +35,7 @@ public final class UpdateRobot {
     public UpdateRobot(int limit) {
         this.limit = Math.max(0, Math.min(MAX_LIMIT, limit));
         this.names = new Names();
-        this.solver = new Solver(names);
+        this.solver = new Solver();
         this.proposals = new Proposals();
         this.clock = 0;
         this.waited = 0;
@@ -104,7 +104,7 @@ public final class UpdateRobot {
     }
 
     public int solve(int chief) {
-        return names.isChief(chief) ? solver.solveUnit(chief) : NONE;
+        return names.isChief(chief) ? solver.solveUnit(names, chief) : NONE;
     }
 
     public int tick(int n) {
@@ -188,7 +188,7 @@ public final class UpdateRobot {
     /** What a run does with one unit that is due. */
     private void review(int chief) {
         int standing = proposals.openOf(chief);
-        if (solver.solveUnit(chief) <= 0) {
+        if (solver.solveUnit(names, chief) <= 0) {
             proposals.closeIfAny(standing, ABANDONED);
             return;
         }
@@ -237,7 +237,7 @@ public final class UpdateRobot {
 
     private void redo(int proposal) {
         int chief = proposals.chief[proposal];
-        if (names.isChief(chief) && solver.solveUnit(chief) > 0) {
+        if (names.isChief(chief) && solver.solveUnit(names, chief) > 0) {
             proposals.setRaised(proposal, solver.raised);
             proposals.redone[proposal]++;
         } else {
@@ -388,22 +388,20 @@ public final class UpdateRobot {
         /** A target can rise no oftener than there are versions. */
         static final int MAX_RAISES = MAX_NAMES * MAX_VERSIONS;
 
-        final Names names;
         final int[] targets;
         /** The targets that are above what is had; NONE for every other name. */
         final int[] raised;
 
-        Solver(Names names) {
-            this.names = names;
-            this.targets = new int[MAX_NAMES];
-            this.raised = new int[MAX_NAMES];
+        Solver() {
+            targets = new int[MAX_NAMES];
+            raised = new int[MAX_NAMES];
         }
 
         /** How many targets are above what is had, or NO_WAY less the culprit. */
-        int solveUnit(int chief) {
-            setOut(chief);
+        int solveUnit(Names names, int chief) {
+            setOut(names, chief);
             for (int round = 0; round < MAX_RAISES; round++) {
-                int needy = firstNeedy();
+                int needy = firstNeedy(names);
                 if (needy == NONE) {
                     break;
                 }
@@ -415,26 +413,26 @@ public final class UpdateRobot {
                 }
                 targets[other] = least;
             }
-            return keepRaised();
+            return keepRaised(names);
         }
 
-        private void setOut(int chief) {
+        private void setOut(Names names, int chief) {
             for (int n = 0; n < names.count; n++) {
                 targets[n] = names.chiefOf(n) == chief ? names.goalOf(n) : names.had[n];
             }
         }
 
         /** The least name that is to rise and needs another one above that one's target. */
-        private int firstNeedy() {
+        private int firstNeedy(Names names) {
             for (int n = 0; n < names.count; n++) {
-                if (targets[n] > names.had[n] && lacksAtTarget(n)) {
+                if (targets[n] > names.had[n] && lacksAtTarget(names, n)) {
                     return n;
                 }
             }
             return NONE;
         }
 
-        private boolean lacksAtTarget(int name) {
+        private boolean lacksAtTarget(Names names, int name) {
             int at = targets[name];
             if (!names.hasVersion(name, at)) {
                 return false;
@@ -443,7 +441,7 @@ public final class UpdateRobot {
             return names.isKnown(other) && names.neededLeast[name][at] > targets[other];
         }
 
-        private int keepRaised() {
+        private int keepRaised(Names names) {
             int above = 0;
             for (int n = 0; n < MAX_NAMES; n++) {
                 raised[n] = NONE;

@@ -259,6 +259,26 @@ public final class UpdateRobotPromises {
     due("advise(0, NONE)", x.advise(0, NONE), true);
     due("goal(0)", x.goal(0), 0);
     due("run()", x.run(), 0);
+    hitNoMore();
+  }
+
+  /** A name that is above its advisory is due, and bound by the limit, like any other. */
+  private static void hitNoMore() {
+    UpdateRobot x = robot(0, 0);
+    steps(x, 0, 0, 0, 0);
+    x.rule(0, -1, 1, NONE);
+    x.advise(0, 0);
+    due("run() when hit", x.run(), 1);
+    due("pass(0, true)", x.pass(0, true), 1);
+    x.rule(0, 2, 1, NONE);
+    due("run() at once, hit no more", x.run(), 0);
+    due("waiting(): it isn't due", x.waiting(), 0);
+    x.tick(1);
+    due("run() by limit 0, hit no more", x.run(), 0);
+    due("waiting()", x.waiting(), 1);
+    x.advise(0, 1);
+    due("run() when hit at what it has", x.run(), 1);
+    due("about(1, 4)", x.about(1, 4), 1);
   }
 
   private static void has() {
@@ -440,8 +460,19 @@ public final class UpdateRobotPromises {
     due("tick(100000) above it", late.tick(100000), NONE);
   }
 
+  private static void runByFirstRule() {
+    UpdateRobot x = robot(5, 0);
+    steps(x, 0, 2);
+    due("run()", x.run(), 1);
+    x.newer(0, 2);
+    due("run() at once", x.run(), 0);
+    x.tick(1);
+    due("run() after 1", x.run(), 1);
+  }
+
   private static void runByDueness() {
     promise = "promise 12, dueness";
+    runByFirstRule();
     UpdateRobot x = robot(5, 0, 0, 0);
     steps(x, 0, 0);
     x.rule(0, 2, 10, 0);
