@@ -434,7 +434,7 @@ public final class UpdateRobot {
 
         private boolean lacksAtTarget(Names names, int name) {
             int at = targets[name];
-            if (!names.hasVersion(name, at)) {
+            if (at < 0 || at >= MAX_VERSIONS) {
                 return false;
             }
             int other = names.needed[name][at];
