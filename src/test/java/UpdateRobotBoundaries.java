@@ -96,11 +96,10 @@ public final class UpdateRobotBoundaries {
   }
 
   private static void threeRepositories() {
-    says("Terms: a REPOSITORY (0 .. 2); promises 2 and 17: no such REPOSITORY");
+    says("Terms: a REPOSITORY (0 .. 2); promise 2: NONE if there is no such REPOSITORY");
     UpdateRobot x = new UpdateRobot(1);
     for (int bad : new int[] {LOW, -2, -1, 3, 4, HIGH}) {
       due("name(" + bad + ")", x.name(bad), NONE);
-      due("open(" + bad + ")", x.open(bad), NONE);
     }
     for (int good = 0; good < 3; good++) {
       due("open(" + good + ") when there is nothing", x.open(good), 0);
@@ -398,12 +397,6 @@ public final class UpdateRobotBoundaries {
     due("goal(2) not over the first", x.goal(2), 0);
     x.rule(2, 1, 1, NONE);
     due("goal(2) over all", x.goal(2), 7);
-    for (int bad : new int[] {LOW, -2, -1, 3, 11, 12, HIGH}) {
-      due("goal(" + bad + ")", x.goal(bad), NONE);
-      due("has(" + bad + ")", x.has(bad), NONE);
-      due("chief(" + bad + ")", x.chief(bad), NONE);
-      due("solve(" + bad + ")", x.solve(bad), NONE);
-    }
   }
 
   private static void goalFromWhatItHas() {
@@ -1084,6 +1077,101 @@ public final class UpdateRobotBoundaries {
 
   // ---- The other promises ----
 
+  /** Not a name of a robot with three of them; with none, 0 to 2 are none either. */
+  private static final int[] NO_NAMES = {LOW, -2, -1, 3, 4, 11, 12, HIGH};
+
+  private static UpdateRobot threeThatMayRise() {
+    UpdateRobot x = robot(1, 0, 1, 2);
+    stepOfEach(x, 3);
+    return x;
+  }
+
+  private static void newerOfNoneSuch() {
+    says("Promise 3: NONE if there is no such NAME");
+    UpdateRobot x = threeThatMayRise();
+    for (int bad : NO_NAMES) {
+      due("newer(" + bad + ", 0)", x.newer(bad, 0), NONE);
+    }
+    due("newer(0, 0), the first", x.newer(0, 0), 2);
+    due("newer(2, 0), the last", x.newer(2, 0), 2);
+    due("newer(0, 0) without names", new UpdateRobot(1).newer(0, 0), NONE);
+  }
+
+  private static void hasOfNoneSuch() {
+    says("Promise 7: NONE if there is none such");
+    UpdateRobot x = threeThatMayRise();
+    for (int bad : NO_NAMES) {
+      due("has(" + bad + ")", x.has(bad), NONE);
+    }
+    due("has(0), the first", x.has(0), 0);
+    due("has(2), the last", x.has(2), 0);
+    due("has(0) without names", new UpdateRobot(1).has(0), NONE);
+  }
+
+  private static void goalOfNoneSuch() {
+    says("Promise 8: NONE if there is none such");
+    UpdateRobot x = threeThatMayRise();
+    for (int bad : NO_NAMES) {
+      due("goal(" + bad + ")", x.goal(bad), NONE);
+    }
+    due("goal(0), the first", x.goal(0), 1);
+    due("goal(2), the last", x.goal(2), 1);
+    due("goal(0) without names", new UpdateRobot(1).goal(0), NONE);
+  }
+
+  private static void chiefOfNoneSuch() {
+    says("Promise 9: NONE if there is none such");
+    UpdateRobot x = threeThatMayRise();
+    for (int bad : NO_NAMES) {
+      due("chief(" + bad + ")", x.chief(bad), NONE);
+    }
+    due("chief(0), the first", x.chief(0), 0);
+    due("chief(2), the last", x.chief(2), 2);
+    due("chief(0) without names", new UpdateRobot(1).chief(0), NONE);
+  }
+
+  private static void solveOfNoneSuch() {
+    says("Promise 10: NONE if there is no such NAME, or it is no CHIEF");
+    UpdateRobot x = threeThatMayRise();
+    for (int bad : NO_NAMES) {
+      due("solve(" + bad + ")", x.solve(bad), NONE);
+    }
+    due("solve(0), the first", x.solve(0), 1);
+    due("solve(2), the last", x.solve(2), 1);
+    due("solve(0) without names", new UpdateRobot(1).solve(0), NONE);
+    due("name(0)", x.name(0), 3);
+    x.rule(0, 2, 1, 0);
+    x.rule(3, 2, 1, 0);
+    due("solve(3), no chief", x.solve(3), NONE);
+    x.rule(0, 2, 1, 1);
+    due("solve(3), a chief again", x.solve(3), 0);
+  }
+
+  private static void solvingAlone() {
+    says("Promise 10: is SOLVED (nothing else is done)");
+    UpdateRobot x = threeThatMayRise();
+    for (int n = 0; n < 3; n++) {
+      x.rule(n, 2, 1000, NONE);
+      due("solve(" + n + ")", x.solve(n), 1);
+      due("has(" + n + ")", x.has(n), 0);
+      due("open(" + n + ")", x.open(n), 0);
+    }
+    dueStates(x);
+    due("run(): none was due by that", x.run(), 3);
+  }
+
+  private static void openOfNoneSuch() {
+    says("Promise 17: NONE if there is none such");
+    UpdateRobot x = threeThatMayRise();
+    due("run()", x.run(), 3);
+    for (int bad : new int[] {LOW, -2, -1, 3, 4, HIGH}) {
+      due("open(" + bad + ")", x.open(bad), NONE);
+    }
+    due("open(0), the first", x.open(0), 1);
+    due("open(2), the last", x.open(2), 1);
+    due("open(0) without names", new UpdateRobot(1).open(0), 0);
+  }
+
   private static void ticks() {
     says("Promise 11: n (0 .. 100000)");
     UpdateRobot x = new UpdateRobot(1);
@@ -1296,6 +1384,13 @@ public final class UpdateRobotBoundaries {
   }
 
   private static void others() {
+    newerOfNoneSuch();
+    hasOfNoneSuch();
+    goalOfNoneSuch();
+    chiefOfNoneSuch();
+    solveOfNoneSuch();
+    solvingAlone();
+    openOfNoneSuch();
     ticks();
     endOfTheClock();
     waitingInTheLatest();
